@@ -153,7 +153,11 @@ public final class NoddingRafts {
     }
 
     public int lay(int raft, int place, int strength) {
-        if (!isRaft(raft) || !isPlace(place) || !isStrength(strength) || !log.hasRoomForThing()) {
+        if (!isRaft(raft) || !isPlace(place) || !isStrength(strength)) {
+            return NONE;
+        }
+        // Behind the last SPELL there is none that a THING told NOW could be kept with.
+        if (now >= SPELLS || !log.hasRoomForThing()) {
             return NONE;
         }
         if (!booked.isDoable(LAYING, raft, place) || ground.isShut(place / 10, now / DAY)) {
@@ -1405,8 +1409,9 @@ public final class NoddingRafts {
 
         private int shift(int boat, int part, int n) {
             int has = aboard[boat * PARTS + part];
-            boolean fits = n >= -has && n <= MOST_ABOARD - has && n <= shore[part];
-            if (lastSpell[boat] != NONE || !fits) {
+            boolean fitsBoat = n >= -has && n <= MOST_ABOARD - has;
+            boolean fitsShore = n <= shore[part] && n >= shore[part] - MOST_ON_SHORE;
+            if (lastSpell[boat] != NONE || !fitsBoat || !fitsShore) {
                 return NONE;
             }
             aboard[boat * PARTS + part] += n;

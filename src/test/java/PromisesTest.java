@@ -421,6 +421,22 @@ public final class PromisesTest {
         due(x.lay(1, 0, 5000), 2);
     }
 
+    /** A THING is kept with its SPELL, and behind the last one there is none. */
+    void promise13LayBehindTheLastSpell() {
+        x.raft(5, 8);
+        x.raft(6, 8);
+        for (int i = 0; i < 5; i++) {
+            x.go(80);
+        }
+        x.go(79);
+        due(x.lay(0, 0, 50), 1);
+        due(x.go(1), 480);
+        due(x.lay(1, 10, 50), NONE);
+        due(x.count(5), 1);
+        due(x.told(1, 0), 0);
+        due(x.told(1, 1), NONE);
+    }
+
     /** Lays a raft and tows it home till no THING more can be; by boats as well. */
     void promise13LayAtMostTwoHundredThings() {
         for (int i = 0; i < 10; i++) {
@@ -998,6 +1014,25 @@ public final class PromisesTest {
         due(x.load(0, 0, -1), NONE);
         x.go(1);
         due(x.load(0, 0, -1), 8);
+    }
+
+    void promise24LoadBackUpToNinetyNine() {
+        for (int i = 0; i < 5; i++) {
+            x.parts(1, i == 0 ? 19 : 20);
+        }
+        due(x.load(1, 1, 3), 3);
+        due(x.load(2, 1, 1), 1);
+        due(x.parts(1, 2), 97);
+        due(x.load(1, 1, -3), NONE);
+        due(x.boat(1, 2), 3);
+        due(x.count(21), 97);
+        due(x.load(1, 1, -2), 1);
+        due(x.count(21), 99);
+        due(x.load(1, 1, -1), NONE);
+        due(x.load(2, 1, -1), NONE);
+        due(x.load(1, 1, 0), 1);
+        due(x.load(2, 1, 1), 2);
+        due(x.load(1, 1, -1), 0);
     }
 
     void promise25Send() {

@@ -13,7 +13,7 @@ public final class RandomRunsTest {
     private static long checked = 0;
 
     public static void main(String[] args) {
-        int runs = args.length > 0 ? Integer.parseInt(args[0]) : 1500;
+        int runs = args.length > 0 ? Integer.parseInt(args[0]) : 1000;
         for (int seed = 1; seed <= runs && wrong < 10; seed++) {
             new Run(seed).go();
         }
@@ -85,8 +85,19 @@ public final class RandomRunsTest {
                 int suit = pick(4, 12);
                 due("raft(" + size + "," + suit + ")", x.raft(size, suit), m.raft(size, suit));
             }
+            if (seed % 10 == 0) {
+                goLate();
+            }
             for (int i = 0; i < calls && wrong < 10; i++) {
                 call();
+            }
+        }
+
+        /** So that some runs come to the last SPELL and go on behind it. */
+        void goLate() {
+            for (int i = 0; i < 6; i++) {
+                int n = i < 5 ? 80 : pick(40, 80);
+                due("go(" + n + ")", x.go(n), m.go(n));
             }
         }
 
@@ -211,7 +222,7 @@ public final class RandomRunsTest {
                 }
                 case 34: {
                     int part = near(0, 2);
-                    int n = near(1, 20);
+                    int n = random.nextBoolean() ? near(1, 20) : near(20, 20);
                     due("parts(" + part + "," + n + ")", x.parts(part, n), m.parts(part, n));
                     break;
                 }
@@ -967,6 +978,9 @@ public final class RandomRunsTest {
             if (!in(raft, 0, rafts.size() - 1) || !isPlace(place) || !in(strength, 10, 5000) || things.size() == 200) {
                 return NONE;
             }
+            if (now == 480) {
+                return NONE;
+            }
             Story story = current();
             if (story.hulls[raft].state != 0 || shut(place) || taken(story, place)) {
                 return NONE;
@@ -1278,7 +1292,7 @@ public final class RandomRunsTest {
             if (!in(boat, 0, 2) || !in(part, 0, 2) || !in(n, -9, 9) || boats[boat].last != NONE) {
                 return NONE;
             }
-            if (!in(boats[boat].parts[part] + n, 0, 9) || shore[part] - n < 0) {
+            if (!in(boats[boat].parts[part] + n, 0, 9) || !in(shore[part] - n, 0, 99)) {
                 return NONE;
             }
             shore[part] -= n;
