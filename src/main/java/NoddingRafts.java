@@ -605,10 +605,14 @@ public final class NoddingRafts {
         private final byte[] bytes = new byte[MOST_BYTES];
         private int length;
         private int fault;
-        private int at;
+        /** TOKENS: kind, first byte, and value of a number; behind the last one stands END. */
+        private final int[] kinds = new int[MOST_BYTES + 1];
+        private final int[] starts = new int[MOST_BYTES + 1];
+        private final int[] values = new int[MOST_BYTES + 1];
+        private int tokens;
+        /** The TOKEN that is looked at, and its kind. */
+        private int token;
         private int kind;
-        private int start;
-        private int value;
         private final int[] code = new int[MOST_BYTES];
         private int codeLength;
         private final int[] clauseFrom = new int[CLAUSES];
@@ -628,11 +632,12 @@ public final class NoddingRafts {
         /** The FAULT; without one, the code of the TEXT stands ready. */
         private int findFault() {
             fault = NONE;
-            at = 0;
             codeLength = 0;
             Arrays.fill(clauseFrom, NONE);
             Arrays.fill(clauseTo, NONE);
-            step();
+            readTokens();
+            token = 0;
+            kind = kinds[0];
             for (int i = 0; i < MOST_BYTES && fault == NONE && kind != END; i++) {
                 readClause();
             }
@@ -674,7 +679,7 @@ public final class NoddingRafts {
             }
         }
 
-        /** What opens too deep falls through to a comparison, where it can't stand either and is refused. */
+        /** What opens too deep is read as a sum, where it can't stand either and is refused. */
         private void readTruth(int depth) {
             if (kind == NOT && depth < DEEPEST) {
                 step();
@@ -685,20 +690,16 @@ public final class NoddingRafts {
                 readEither(depth + 1);
                 need(']');
             } else {
-                readComparison(depth);
+                readSum(depth);
+                int sign = kind;
+                if (sign == '<' || sign == '>' || sign == '=') {
+                    step();
+                    readSum(depth);
+                    emit(DOING + sign);
+                } else {
+                    refuse();
+                }
             }
-        }
-
-        private void readComparison(int depth) {
-            readSum(depth);
-            int sign = kind;
-            if (sign != '<' && sign != '>' && sign != '=') {
-                refuse();
-                return;
-            }
-            step();
-            readSum(depth);
-            emit(DOING + sign);
         }
 
         private void readSum(int depth) {
@@ -722,8 +723,8 @@ public final class NoddingRafts {
         }
 
         private void readFactor(int depth) {
-            if (kind == NUMBER && value <= GREATEST) {
-                emit(value);
+            if (kind == NUMBER && values[token] <= GREATEST) {
+                emit(values[token]);
                 step();
             } else if (kind >= FIRST_NAME && kind <= LAST_NAME) {
                 emit(DOING + kind);
@@ -748,9 +749,16 @@ public final class NoddingRafts {
         /** Only the first FAULT counts; the TOKEN is made one that stands nowhere, so that all reading ends. */
         private void refuse() {
             if (fault == NONE) {
-                fault = start;
+                fault = starts[token];
             }
             kind = FAULTY;
+        }
+
+        private void step() {
+            if (fault == NONE && token < tokens) {
+                token++;
+                kind = kinds[token];
+            }
         }
 
         private void emit(int what) {
@@ -760,45 +768,55 @@ public final class NoddingRafts {
             }
         }
 
-        private void step() {
-            if (fault != NONE) {
-                return;
-            }
-            while (at < length && bytes[at] == ' ') {
-                at++;
-            }
-            start = at;
-            if (at >= length) {
-                kind = END;
-            } else if (isLetter(bytes[at])) {
-                stepWord();
-            } else if (isDigit(bytes[at])) {
-                stepNumber();
-            } else {
-                char sign = (char) (bytes[at] & 255);
-                kind = SYMBOLS.indexOf(sign) >= 0 ? sign : FAULTY;
-                at++;
-            }
-        }
+        // ---- TOKENS
 
-        private void stepWord() {
-            while (at < length && isLetter(bytes[at])) {
-                at++;
-            }
-            kind = STRANGE_WORD;
-            for (int word = 0; word < WORDS_MANY; word++) {
-                if (isWord(word)) {
-                    kind = WORD + word;
+        private void readTokens() {
+            tokens = 0;
+            int behind = 0;
+            for (int at = 0; at < length; at++) {
+                if (at >= behind && bytes[at] != ' ') {
+                    starts[tokens] = at;
+                    behind = readToken(at);
+                    tokens++;
                 }
             }
+            kinds[tokens] = END;
+            starts[tokens] = length;
         }
 
-        private boolean isWord(int word) {
-            if (at - start > WIDTH) {
+        /** Reads the TOKEN that begins at a byte, or takes this byte alone for a faulty one; the place behind it. */
+        private int readToken(int start) {
+            if (isLetter(bytes[start])) {
+                return readWord(start);
+            }
+            if (isDigit(bytes[start])) {
+                return readNumber(start);
+            }
+            char sign = (char) (bytes[start] & 255);
+            kinds[tokens] = SYMBOLS.indexOf(sign) >= 0 ? sign : FAULTY;
+            return start + 1;
+        }
+
+        private int readWord(int start) {
+            int end = start;
+            while (end < length && isLetter(bytes[end])) {
+                end++;
+            }
+            kinds[tokens] = STRANGE_WORD;
+            for (int word = 0; word < WORDS_MANY; word++) {
+                if (isWord(word, start, end)) {
+                    kinds[tokens] = WORD + word;
+                }
+            }
+            return end;
+        }
+
+        private boolean isWord(int word, int start, int end) {
+            if (end - start > WIDTH) {
                 return false;
             }
             for (int i = 0; i < WIDTH; i++) {
-                int byteHere = start + i < at ? bytes[start + i] : ' ';
+                int byteHere = start + i < end ? bytes[start + i] : ' ';
                 if (WORDS.charAt(word * WIDTH + i) != byteHere) {
                     return false;
                 }
@@ -806,14 +824,17 @@ public final class NoddingRafts {
             return true;
         }
 
-        private void stepNumber() {
-            value = 0;
-            while (at < length && isDigit(bytes[at])) {
+        private int readNumber(int start) {
+            int end = start;
+            int value = 0;
+            while (end < length && isDigit(bytes[end])) {
                 // Kept just above the greatest number, so that no row of digits wraps around.
-                value = Math.min(value * 10 + bytes[at] - '0', GREATEST + 1);
-                at++;
+                value = Math.min(value * 10 + bytes[end] - '0', GREATEST + 1);
+                end++;
             }
-            kind = NUMBER;
+            kinds[tokens] = NUMBER;
+            values[tokens] = value;
+            return end;
         }
 
         private static boolean isLetter(int sign) {
