@@ -1,88 +1,7 @@
-import java.lang.reflect.Method;
-import java.util.Arrays;
-import java.util.Comparator;
-
 /** For each promise of the document: ordinary inputs, the edges that it names, and wrong inputs. */
-public final class PromisesTest {
-    private static final int NONE = NoddingRafts.NONE;
-    private static final int VOID = NoddingRafts.VOID;
-    private static final int MIN = Integer.MIN_VALUE;
-    private static final int MAX = Integer.MAX_VALUE;
-
-    private int wrong = 0;
-    private int checked = 0;
-    private NoddingRafts x;
-
+public final class PromisesTest extends Checks {
     public static void main(String[] args) throws ReflectiveOperationException {
-        PromisesTest test = new PromisesTest();
-        Method[] all = PromisesTest.class.getDeclaredMethods();
-        Arrays.sort(all, Comparator.comparing(Method::getName));
-        int promises = 0;
-        for (Method m : all) {
-            if (m.getName().startsWith("promise")) {
-                test.x = new NoddingRafts();
-                int before = test.wrong;
-                m.invoke(test);
-                promises++;
-                if (test.wrong > before) {
-                    System.out.println("    in " + m.getName());
-                }
-            }
-        }
-        System.out.println(promises + " tests of promises, " + test.checked + " answers, " + test.wrong + " wrong");
-        if (test.wrong != 0 || promises < 37) {
-            System.exit(1);
-        }
-    }
-
-    private void due(long got, long want) {
-        checked++;
-        if (got != want) {
-            wrong++;
-            StackTraceElement[] trace = new Throwable().getStackTrace();
-            System.out.println("line " + trace[1].getLineNumber() + ": " + got + ", due is " + want);
-        }
-    }
-
-    private void due(boolean got, boolean want) {
-        checked++;
-        if (got != want) {
-            wrong++;
-            StackTraceElement[] trace = new Throwable().getStackTrace();
-            System.out.println("line " + trace[1].getLineNumber() + ": " + got + ", due is " + want);
-        }
-    }
-
-    private void text(String text) {
-        x.end(0);
-        StringBuilder b = new StringBuilder(text);
-        while (b.length() % 20 != 0) {
-            b.append(' ');
-        }
-        for (int i = 0; i < b.length(); i += 20) {
-            int[] n = new int[5];
-            for (int j = 0; j < 20; j++) {
-                n[j / 4] = n[j / 4] << 8 | b.charAt(i + j) & 255;
-            }
-            x.feed(n[0], n[1], n[2], n[3], n[4]);
-        }
-        x.end(text.length());
-    }
-
-    private int faultOf(String text) {
-        text(text);
-        return x.fault();
-    }
-
-    private void inForce(String text, int spell) {
-        text(text);
-        x.force(x.sheet(), spell);
-    }
-
-    private void sea(int from, int to, int what) {
-        for (int spell = from; spell <= to; spell += 9) {
-            x.reading(spell, what);
-        }
+        new PromisesTest().runAll();
     }
 
     void promise01NewObject() {
@@ -123,15 +42,9 @@ public final class PromisesTest {
     }
 
     void promise02ReadingBehindTheLastSpell() {
-        toTheEnd();
+        goTo(480);
         due(x.reading(479, 10081), NONE);
         due(x.count(2), 0);
-    }
-
-    private void toTheEnd() {
-        for (int i = 0; i < 6; i++) {
-            x.go(80);
-        }
     }
 
     void promise03Drift() {
@@ -154,7 +67,7 @@ public final class PromisesTest {
     }
 
     void promise03DriftBehindTheLastSpell() {
-        toTheEnd();
+        goTo(480);
         due(x.drift(0, 0, 1), NONE);
         due(x.count(3), 0);
     }
@@ -1263,7 +1176,7 @@ public final class PromisesTest {
     }
 
     void promise29WindowAtTheEnd() {
-        toTheEnd();
+        goTo(480);
         due(x.window(40, 0, 0), NONE);
         due(x.plan(40, -1), 0);
         x = new NoddingRafts();
