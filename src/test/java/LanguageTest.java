@@ -3,15 +3,24 @@ import java.lang.reflect.Constructor;
 import java.lang.reflect.Field;
 import java.lang.reflect.Method;
 import java.lang.reflect.Modifier;
+import java.io.PrintWriter;
+import java.io.StringWriter;
 import java.nio.file.Files;
 import java.nio.file.Path;
+import java.util.ArrayDeque;
 import java.util.ArrayList;
+import java.util.Deque;
+import java.util.HashMap;
+import java.util.HashSet;
 import java.util.IdentityHashMap;
 import java.util.List;
 import java.util.Map;
+import java.util.Set;
+import java.util.TreeMap;
 import java.util.TreeSet;
 import java.util.regex.Matcher;
 import java.util.regex.Pattern;
+import java.util.spi.ToolProvider;
 
 /** What of LANGUAGE.md can be seen from the source and the compiled class; run from the project's folder. */
 public final class LanguageTest {
@@ -30,6 +39,7 @@ public final class LanguageTest {
         classes();
         words(bare(source));
         lengths(source);
+        depth();
         room();
         System.out.println(wrong == 0 ? "the rules that can be seen are kept" : wrong + " rules are not kept");
         if (wrong != 0) {
@@ -141,6 +151,80 @@ public final class LanguageTest {
 
     private static int indent(String line) {
         return line.length() - line.stripLeading().length();
+    }
+
+    /** Of each method (class and name) those that it calls, as javap tells. */
+    private static Map<String, Set<String>> calls() throws Exception {
+        Path folder = Path.of(NoddingRafts.class.getProtectionDomain().getCodeSource().getLocation().toURI());
+        Map<String, Set<String>> calls = new TreeMap<>();
+        for (Class<?> c : all()) {
+            StringWriter out = new StringWriter();
+            ToolProvider.findFirst("javap").orElseThrow().run(new PrintWriter(out), new PrintWriter(out), "-c", "-p",
+                folder.resolve(c.getName() + ".class").toString());
+            String method = "";
+            for (String line : out.toString().split("\\R")) {
+                Matcher head = Pattern.compile("  \\S.*?([\\w$]+)\\(.*\\);").matcher(line);
+                Matcher call = Pattern.compile(".*invoke.*// Method ([^:]+):.*").matcher(line);
+                if (head.matches()) {
+                    method = c.getName() + "." + head.group(1);
+                    calls.put(method, new TreeSet<>());
+                } else if (call.matches() && !method.isEmpty()) {
+                    String called = call.group(1).replace('/', '.').replace("\"", "");
+                    called = called.contains(".") ? called : c.getName() + "." + called;
+                    calls.get(method).add(called.replace(".<init>", "." + called.replaceAll("\\.<init>", "")));
+                }
+            }
+        }
+        return calls;
+    }
+
+    private static Set<String> reached(String from, Map<String, Set<String>> calls) {
+        Set<String> seen = new HashSet<>();
+        Deque<String> left = new ArrayDeque<>(List.of(from));
+        while (!left.isEmpty()) {
+            for (String next : calls.getOrDefault(left.pop(), Set.of())) {
+                if (seen.add(next)) {
+                    left.push(next);
+                }
+            }
+        }
+        return seen;
+    }
+
+    /** How deep calls go from a method on, methods that lead back to one another counted as one. */
+    private static int depth(String method, Map<String, Set<String>> calls, Map<String, Integer> known) {
+        Integer before = known.get(method);
+        if (before != null) {
+            return before;
+        }
+        Set<String> ring = new TreeSet<>(List.of(method));
+        for (String other : reached(method, calls)) {
+            if (reached(other, calls).contains(method)) {
+                ring.add(other);
+            }
+        }
+        int deepest = 0;
+        for (String one : ring) {
+            for (String next : calls.getOrDefault(one, Set.of())) {
+                deepest = ring.contains(next) ? deepest : Math.max(deepest, depth(next, calls, known));
+            }
+        }
+        for (String one : ring) {
+            known.put(one, deepest + 1);
+        }
+        return deepest + 1;
+    }
+
+    private static void depth() throws Exception {
+        Map<String, Set<String>> calls = calls();
+        Map<String, Integer> known = new HashMap<>();
+        int deepest = 0;
+        for (String method : calls.keySet()) {
+            int depth = depth(method, calls, known);
+            must(depth <= 8, "11: calls eight deep: " + method + " goes " + depth);
+            deepest = Math.max(deepest, depth);
+        }
+        System.out.println(calls.size() + " methods, calls " + deepest + " deep");
     }
 
     private static int objects;
