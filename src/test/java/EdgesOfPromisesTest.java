@@ -1924,9 +1924,11 @@ public final class EdgesOfPromisesTest extends Checks {
     void p34NoSuchRaftOrChain() {
         due(x.blame(0, 0), NONE);
         laid(15, 8, 0, 10);
+        x.raft(15, 8);
         x.reading(0, what(20, 8, 0));
         x.go(1);
         due(x.blame(1, 0), NONE);
+        due(x.blame(2, 0), NONE);
         due(x.blame(-1, 0), NONE);
         due(x.blame(0, 3), NONE);
         due(x.blame(0, -1), NONE);
@@ -1935,6 +1937,13 @@ public final class EdgesOfPromisesTest extends Checks {
             due(x.blame(0, far), NONE);
         }
         due(x.blame(0, 2), 0);
+        // Nor is a chain of one raft one of another.
+        x.lay(1, 1, 10);
+        x.reading(1, what(20, 8, 0));
+        x.go(1);
+        due(x.blame(1, 0), 0);
+        due(x.blame(0, 3), NONE);
+        due(x.blame(1, -1), NONE);
     }
 
     @Says(promise = 34, value = "or it didn't break.")

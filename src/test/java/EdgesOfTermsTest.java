@@ -294,6 +294,17 @@ public final class EdgesOfTermsTest extends Checks {
         due(paid(b.substring(4, 399)), 198);
     }
 
+    /** Each byte is a TOKEN of its own, the last one a number or a sign. */
+    @Says("TEXTS have at most 400 bytes.")
+    void aTextMayHave400Tokens() {
+        due(faultOf(")".repeat(400)), 0);
+        due(faultOf("+1".repeat(200)), 0);
+        due(faultOf("(1".repeat(200)), 0);
+        due(faultOf("pay 1" + "+1".repeat(197) + "+"), 400);
+        due(faultOf("pay 1" + "+1".repeat(197) + "1"), 400);
+        due(faultOf("pay 1" + "+1".repeat(197) + "$"), 399);
+    }
+
     @Says({"TOKENS are words of small letters, numbers of digits, and + - * / ( ) [ ] < > = ;",
         "or of a byte that begins no TOKEN"})
     void eachByteBeginsATokenOrIsAFault() {
@@ -472,6 +483,16 @@ public final class EdgesOfTermsTest extends Checks {
         due(holds("not not 1=1"), true);
         due(holds("not 1=2 and 1=2"), false);
         due(holds("not [1=2 and 1=2]"), true);
+        for (String one : new String[] {"1<2", "2>1", "2=2"}) {
+            due(holds("not " + one), false);
+            due(holds("not not " + one), true);
+            for (String other : new String[] {"1<2", "2>1", "2=2"}) {
+                due(holds(one + " and " + other), true);
+                due(holds(one + " or " + other), true);
+                due(holds("not [" + one + " or " + other + "]"), false);
+                due(holds(one + " and not " + other), false);
+            }
+        }
         due(holds("[1=1 or 1=1] and 1=2"), false);
         due(faultOf("sink 1<2<3;"), 8);
         due(faultOf("sink 1<>2;"), 7);
@@ -692,6 +713,27 @@ public final class EdgesOfTermsTest extends Checks {
         due(x.why(1, 8), NONE);
     }
 
+    /** CLAUSES of each SHEET begin elsewhere in its TEXT. */
+    @Says("for each CLAUSE that of the SHEET that has it")
+    void eachSheetKeepsItsClausesThoughOthersCome() {
+        sheetOf("pay 3;");
+        sheetOf("sink 1=2; rise 1=2 or 2=3; boat 1+1+1=4; pay 7+4*2;");
+        sheetOf("boat 1=1; pay 2*(3+4); sink 1=1;");
+        laid(5, 8, 0, 50);
+        x.force(0, 0);
+        x.force(1, 1);
+        x.force(2, 2);
+        x.go(3);
+        due(x.booked(0, 1), 3);
+        due(x.booked(1, 1), 15);
+        due(x.booked(2, 1), 14);
+        due(x.right(0, 3, 1), 3);
+        due(x.told(0, 0), 2);
+        due(x.window(2, 0, 1), 2);
+        x.force(1, 4);
+        due(x.window(2, 0, 1), 1);
+    }
+
     @Says("of like ones the one put later.")
     void ofLikeSheetsTheOnePutLaterIsInForce() {
         sheetOf("pay 1;");
@@ -789,6 +831,20 @@ public final class EdgesOfTermsTest extends Checks {
         due(x.booked(3, 1), 0);
     }
 
+    @Says("hold: the least HOLD of its chains that hold")
+    void holdIsOfTheRaftsOwnChains() {
+        laid(5, 8, 0, 70);
+        laid(5, 8, 10, 50);
+        laid(5, 8, 20, 90);
+        inForce("pay hold * size;", 0);
+        inForce("sink hold = 50;", 0);
+        x.go(1);
+        due(x.booked(0, 1), 5 * (70 + 50 + 90));
+        due(x.told(0, 0), 1);
+        due(x.told(1, 0), 2);
+        due(x.told(2, 0), 1);
+    }
+
     @Says({"its SIZE", "DAY and SPELL of it (0 .. 7)"})
     void sizeDayAndSpellHaveNames() {
         x.raft(13, 8);
@@ -820,8 +876,10 @@ public final class EdgesOfTermsTest extends Checks {
     @Says("For boat all of the raft are 0.")
     void forBoatAllOfTheRaftAre0() {
         laid(20, 8, 0, 5000);
+        inForce("pay power + hold + size + ready;", 0);
         sea(0, 9, SEA10);
         x.go(1);
+        due(x.booked(0, 1), 400 + 5000 + 20 + 1);
         due(x.window(3, 0, 1), 3);
         inForce("boat power = 0 and hold = 0 and size = 0 and ready = 0 and height = 10 and spell = 1;", 1);
         due(x.window(3, 0, 0), 1);
@@ -992,6 +1050,32 @@ public final class EdgesOfTermsTest extends Checks {
     }
 
     /** Seven rafts are laid and towed home by turns, by one BOAT. */
+    /** Each COLUMN's places are shut by its own LANE alone. */
+    @Says("a COLUMN is shut from a DAY to a DAY: no raft is laid there.")
+    void eachPlaceIsShutByTheLaneOfItsColumn() {
+        for (int column = 0; column < 10; column++) {
+            for (int row = 0; row < 5; row++) {
+                x = new NoddingRafts();
+                x.raft(5, 8);
+                x.raft(5, 8);
+                x.lane(column, 0, 0);
+                due(x.lay(0, column * 10 + row, 50), NONE);
+                x.place(column * 10 + row);
+                due(x.laying(0, 1, 0, 0, NONE), NONE);
+                x = new NoddingRafts();
+                x.raft(5, 8);
+                for (int other = 0; other < 10; other++) {
+                    if (other != column) {
+                        x.lane(other, 0, 0);
+                    }
+                }
+                x.place(column * 10 + row);
+                due(x.laying(0, 1, 0, 0, 0), column * 10 + row);
+                due(x.lay(0, column * 10 + row, 50), 1);
+            }
+        }
+    }
+
     @Says("THINGS (200 at most")
     void thingsAre200AtMost() {
         twoHundredThings();
@@ -1296,6 +1380,20 @@ public final class EdgesOfTermsTest extends Checks {
         due(x.told(0, 4), 1);
     }
 
+    /** Of 32 it is 1.5, cut to 1. */
+    @Says("the number of SPELLS in which it TOOK something")
+    void spellsInWhich1WasTakenLeak() {
+        laid(1, 8, 0, 5000);
+        sea(0, 15, what(2, 8, 0));
+        x.go(16);
+        due(x.told(0, 7), 16);
+        due(x.told(0, 4), 1);
+        // 1 with LEAK 1 is 0.99; it is taken all the same.
+        x.go(1);
+        due(x.told(0, 5), 0);
+        due(x.booked(16, 10), 31);
+    }
+
     /** 480 SPELLS lead to 30; no run leads to 100. */
     @Says("100 at most.")
     void leakIs30InTheEnd() {
@@ -1545,13 +1643,17 @@ public final class EdgesOfTermsTest extends Checks {
     @Says("BASE is 50000 at first (told: for all SPELLS).")
     void baseIs50000AtFirst() {
         x.reading(0, what(70, 10, 0));
-        x.reading(1, what(50, 20, 0));
-        x.go(2);
+        x.reading(1, what(60, 15, 0));
+        x.go(1);
         due(x.beach(0, 100, 100, true), 1);
+        x.go(1);
+        due(x.beach(0, 100, 100, true), 1 - 4);
         x.base(49999);
-        due(x.beach(0, 100, 100, true), 0);
-        x.base(52000);
-        due(x.beach(0, 100, 100, true), 3 + 2);
+        due(x.beach(0, 100, 100, true), 0 - 4);
+        x.base(50001);
+        due(x.beach(0, 100, 100, true), 1 - 3);
+        x.base(55000);
+        due(x.beach(0, 100, 100, true), 6 + 1);
     }
 
     @Says("BOOKED is what came out as the SPELL ended, all SPELLS by what was KNOWN in each then.")
@@ -1591,6 +1693,65 @@ public final class EdgesOfTermsTest extends Checks {
         due(x.right(0, 1, 0), 0);
         due(x.right(0, 2, 0), 40000);
         due(x.right(0, 3, 0), 16);
+    }
+
+    /** Asked again it is gone on with, or gone through anew, and the same. */
+    @Says("RIGHT as of a SPELL s is all SPELLS up to one gone through anew by what is KNOWN as of s")
+    void rightIsTheSameHoweverOftenItIsAsked() {
+        laid(15, 8, 0, 300);
+        inForce("pay hold; sink power > 1000 and spell = 1;", 0);
+        x.go(1);
+        // HEIGHT 22 is a POWER of 1659, and wears the middle chain by 164.
+        sea(0, 20, what(22, 8, 0));
+        x.go(14);
+        for (int times = 0; times < 3; times++) {
+            due(x.right(0, 0, 0), 0);
+            due(x.right(0, 0, 1), 300);
+            due(x.right(0, 15, 0), 1659);
+            due(x.right(0, 15, 1), 299);
+            due(x.right(0, 0, 0), 0);
+            due(x.right(14, 15, 0), 0);
+            due(x.right(14, 15, 1), 299);
+            due(x.would(0, 4), 0);
+            due(x.would(0, 6), 7);
+        }
+        x = new NoddingRafts();
+        laid(15, 8, 0, 300);
+        inForce("pay hold;", 0);
+        x.go(15);
+        sea(0, 20, what(22, 8, 0));
+        for (int times = 0; times < 3; times++) {
+            due(x.right(14, 15, 1), 300 - 15 * 164 / 100);
+            due(x.right(13, 15, 1), 300 - 14 * 164 / 100);
+            due(x.would(0, 4), 0);
+            due(x.owed(14, 14), -24);
+        }
+    }
+
+    @Says("RIGHT as of a SPELL s is all SPELLS up to one gone through anew by what is KNOWN as of s")
+    void rightAsOfASpellAheadOfADriftIsWithoutIt() {
+        laid(20, 8, 0, 5000);
+        sea(0, 9, SEA10);
+        x.go(1);
+        x.drift(0, 0, 10);
+        for (int times = 0; times < 3; times++) {
+            due(x.right(0, 1, 0), 1600);
+            due(x.right(0, 0, 0), 400);
+        }
+    }
+
+    /** Ahead of SPELL 0 there was no POWER and no SPELL in which it TOOK, however often it is gone through. */
+    @Says("power: POWER of the raft in the SPELL ahead")
+    void aheadOfTheFirstSpellThereWasNoPower() {
+        laid(20, 8, 0, 5000);
+        inForce("sink power > 0;", 0);
+        x.reading(0, SEA10);
+        x.go(1);
+        for (int i = 1; i <= 3; i++) {
+            due(x.would(0, 0), 1);
+            due(x.right(0, 1, 0), 4 * (9 + i) * (9 + i));
+            x.drift(0, 0, 1);
+        }
     }
 
     @Says("(SHEETS IN FORCE, BASE as they are NOW")
@@ -2046,6 +2207,66 @@ public final class EdgesOfTermsTest extends Checks {
         due(x.plan(5, 3), NONE);
     }
 
+    /** Windows of 4 and 2: the second JOB has need of the first one. */
+    @Says("of like ones the first JOB in the earliest WINDOW")
+    void theFirstJobLeavesRoomForTheOthers() {
+        inForce("boat not spell = 4 and not spell = 7;", 0);
+        x.want(2, 5);
+        x.want(4, 9);
+        due(x.plan(7, NONE), 14);
+        due(x.plan(7, 0), 1);
+        due(x.plan(7, 1), 0);
+        x.want(2, 1);
+        due(x.plan(7, NONE), 14);
+        due(x.plan(7, 0), 1);
+        due(x.plan(7, 2), NONE);
+    }
+
+    /** What a JOB is worth counts once. */
+    @Says("A PLAN: each in one WINDOW or none")
+    void aJobIsInNoWindowTwice() {
+        x.want(2, 5);
+        x.want(4, 10);
+        x.want(4, 1);
+        due(x.plan(4, NONE), 10);
+        due(x.plan(4, 0), NONE);
+        due(x.plan(4, 1), 0);
+        due(x.plan(6, NONE), 15);
+        due(x.plan(6, 0), 0);
+    }
+
+    /** Over 5 SPELLS windows of 2 and 1, over 16 one of 3 behind them. */
+    @Says("A PLAN: each in one WINDOW or none")
+    void aPlanKnowsNothingOfAnotherOne() {
+        inForce("boat not spell = 2 and not spell = 4 or day = 1;", 0);
+        x.want(3, 6);
+        x.want(2, 3);
+        x.want(1, 3);
+        due(x.plan(16, NONE), 12);
+        due(x.plan(16, 0), 2);
+        due(x.plan(5, NONE), 6);
+        due(x.plan(5, 0), NONE);
+        due(x.plan(5, 1), 0);
+        due(x.plan(5, 2), 1);
+        due(x.plan(16, 0), 2);
+    }
+
+    @Says("JOBS wanted are told (6 at most)")
+    void sixJobsThatDoNotAllFit() {
+        for (int i = 0; i < 6; i++) {
+            x.want(2 + i, 3 + i);
+        }
+        // 2 .. 7 are 27 long: of 20 the two that are left out are 7, at least.
+        due(x.plan(20, NONE), 33 - 8 - 0);
+        due(x.plan(27, NONE), 33);
+        due(x.plan(27, 5), 0);
+        due(x.plan(26, NONE), 30);
+        due(x.plan(26, 0), NONE);
+        due(x.plan(26, 5), 0);
+        due(x.plan(1, NONE), 0);
+        due(x.plan(1, 5), NONE);
+    }
+
     @Says("(none last), then the second one, and so on.")
     void noWindowComesLast() {
         x.want(3, 5);
@@ -2193,6 +2414,38 @@ public final class EdgesOfTermsTest extends Checks {
         x.reading(0, what(11, 3, 0));
         due(x.laying(0, 1, 0, 50, NONE), 181);
         due(x.laying(0, 1, 0, 51, NONE), NONE);
+    }
+
+    /** 534 of 800 are 66.75 of 100. */
+    @Says("100 times what PASSES is not below FLOOR (0 .. 100) times what ROW 0 has")
+    void theFloorIsKeptToTheHundredth() {
+        x.raft(10, 8);
+        x.place(90);
+        x.reading(0, SEA10);
+        due(x.laying(0, 1, 0, 66, NONE), 266);
+        due(x.laying(0, 1, 0, 67, NONE), NONE);
+    }
+
+    /** Of ten rafts seven are AFLOAT. */
+    @Says("(with all that are AFLOAT now as they lie, and all these AFLOAT)")
+    void aLayingBesidesSevenOthers() {
+        for (int i = 0; i < 10; i++) {
+            x.raft(20, 8);
+            if (i < 7) {
+                x.lay(i, i * 10, 5000);
+            }
+        }
+        sea(0, 9, SEA10);
+        for (int i = 0; i < 8; i++) {
+            x.place(i * 10 + i / 7);
+        }
+        x.clear();
+        x.place(70);
+        x.place(80);
+        x.place(90);
+        due(x.laying(987, 3, 0, 0, NONE), 4000);
+        due(x.laying(987, 3, 0, 0, 2), 90);
+        due(x.laying(9, 1, 0, 0, NONE), 3200);
     }
 
     @Says("(with all that are AFLOAT now as they lie, and all these AFLOAT)")
