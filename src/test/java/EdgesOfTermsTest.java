@@ -312,6 +312,7 @@ public final class EdgesOfTermsTest extends Checks {
         for (int c = 0; c < 256; c++) {
             boolean reads = c == ' ' || c >= '0' && c <= '9';
             boolean asksForMore = "+-*/;".indexOf(c) >= 0;
+            x = new NoddingRafts();
             due(faultOf("pay 5" + (char) c + ";"), reads ? NONE : asksForMore ? 6 : 5);
         }
     }

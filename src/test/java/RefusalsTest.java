@@ -84,6 +84,8 @@ public final class RefusalsTest {
     private final NoddingRafts other = new NoddingRafts();
     private final StringBuilder trace = new StringBuilder();
     private final List<Method> methods = new ArrayList<>();
+    private int now = 0;
+    private int lastSheet = -1;
 
     private RefusalsTest(int seed) {
         this.seed = seed;
@@ -118,7 +120,7 @@ public final class RefusalsTest {
             call(method("raft"), 1 + random.nextInt(20), 4 + random.nextInt(8));
             call(method("lay"), i, random.nextInt(10) * 10 + random.nextInt(5), 10 + random.nextInt(400));
         }
-        for (int calls = 40; calls < 440 && wrong < 5; calls++) {
+        for (int calls = 40; calls < 430 && wrong < 5; calls++) {
             if (random.nextInt(40) == 0) {
                 calls += text(TEXTS[random.nextInt(TEXTS.length)]);
             }
@@ -159,7 +161,7 @@ public final class RefusalsTest {
         }
         call(method("end"), text.length());
         call(method("sheet"));
-        call(method("force"), one.count(4) - 1, Math.min(479, one.count(0) + random.nextInt(3)));
+        call(method("force"), lastSheet, Math.min(479, now + random.nextInt(3)));
         return 4 + b.length() / 20;
     }
 
@@ -180,8 +182,8 @@ public final class RefusalsTest {
         if (bounds == ANY) {
             return random.nextInt();
         }
-        int from = bounds == NEAR_NOW ? one.count(0) - 10 : bounds[0];
-        int to = bounds == NEAR_NOW ? one.count(0) + 10 : bounds[1];
+        int from = bounds == NEAR_NOW ? now - 10 : bounds[0];
+        int to = bounds == NEAR_NOW ? now + 10 : bounds[1];
         return dice == 1 ? from - 1 : dice == 2 ? to + 1 : from + random.nextInt(to - from + 1);
     }
 
@@ -194,6 +196,11 @@ public final class RefusalsTest {
             refused.merge(m.getName(), 1, Integer::sum);
         } else if (change || random.nextInt(3) == 0) {
             compare(m, answer, ask(other, m, arguments));
+        }
+        if (m.getName().equals("go") && !none) {
+            now = (int) answer;
+        } else if (m.getName().equals("sheet") && !none) {
+            lastSheet = (int) answer;
         }
     }
 
