@@ -792,8 +792,8 @@ public final class NoddingRafts {
             if (isDigit(bytes[start])) {
                 return readNumber(start);
             }
-            char sign = (char) (bytes[start] & 255);
-            kinds[tokens] = SYMBOLS.indexOf(sign) >= 0 ? sign : FAULTY;
+            int sign = bytes[start] & 255;
+            kinds[tokens] = SYMBOLS.indexOf((char) sign) >= 0 ? sign : FAULTY;
             return start + 1;
         }
 
